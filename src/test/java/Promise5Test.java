@@ -1,0 +1,215 @@
+/** Promise 5: tick, and with it TIMER and FIRE. */
+public final class Promise5Test {
+    private static final Check check = new Check();
+
+    public static void main(String[] args) {
+        clampsTheTime();
+        firesReordering();
+        probesTheTail();
+        probesWithNewData();
+        timeoutComesBeforeALaterProbe();
+        backsOff();
+        firesAtMostSixtyFour();
+        firesWhatIsDueInAnEmptyTick();
+        timeoutInRecovery();
+        probesWithoutIds();
+        wrapsTheClock();
+        check.end();
+    }
+
+    private static void clampsTheTime() {
+        RackTlp x = new RackTlp(4, 100);
+        int[] given = {0, 1, -1, 9999, 10000, 10001, Integer.MAX_VALUE, Integer.MIN_VALUE};
+        int[] now = {0, 1, 1, 10000, 20000, 30000, 40000, 40000};
+        for (int i = 0; i < given.length; i++) {
+            check.due("tick(" + given[i] + ") when idle", x.tick(given[i]), 0);
+            check.stats("tick(" + given[i] + ")", x, RackTlp.K_NOW, now[i]);
+        }
+        check.stats("idle", x, RackTlp.K_RTOS, 0, RackTlp.K_ARM_TIME, 0, RackTlp.K_TIMER, RackTlp.NONE);
+    }
+
+    private static void firesReordering() {
+        RackTlp x = new RackTlp(4, 100);
+        x.write(0);
+        x.tick(1);
+        x.write(1);
+        x.tick(1);
+        x.write(2);
+        x.tick(8);
+        x.deliver(2);
+        // r = 8, window 2: segment 0 is due at 10 = now, segment 1 at 11
+        check.stats("one due", x, RackTlp.K_LOSS_MARKS, 1, RackTlp.K_TIMER, RackTlp.REO,
+            RackTlp.K_TIMER_AT, 11, RackTlp.K_RECOVERY_POINT, 3, RackTlp.K_CWND, 2);
+        x.write(3);
+        check.due("tick(1)", x.tick(1), 1);
+        check.stats("the other", x, RackTlp.K_LOSS_MARKS, 2, RackTlp.K_STATE, RackTlp.RECOVERY,
+            RackTlp.K_CWND, 2, RackTlp.K_SSTHRESH, 2, RackTlp.K_PRIOR_CWND, 5, RackTlp.K_RECOVERY_POINT, 3,
+            RackTlp.K_UNDO_RETRANS, 2, RackTlp.K_RTOS, 0, RackTlp.K_TLPS, 0, RackTlp.K_SHIFT, 0,
+            RackTlp.K_TX_COUNT, 5);
+        check.due("the lost one goes before the new one", x.txInfo(4), 1 + RackTlp.TX_RETX);
+    }
+
+    private static void probesTheTail() {
+        RackTlp x = new RackTlp(4, 100);
+        Check.writeMany(x, 2);
+        x.tick(10);
+        x.deliver(0);
+        check.stats("armed", x, RackTlp.K_TIMER, RackTlp.PTO, RackTlp.K_TIMER_AT, 30, RackTlp.K_RTO, 30);
+        check.due("tick(19)", x.tick(19), 0);
+        check.due("tick(1)", x.tick(1), 1);
+        check.stats("probed", x, RackTlp.K_TLPS, 1, RackTlp.K_TLP_OUT, 1, RackTlp.K_RETRANSMITS, 1,
+            RackTlp.K_STATE, RackTlp.OPEN, RackTlp.K_UNDO_RETRANS, 0, RackTlp.K_CWND, 5,
+            RackTlp.K_RTOS, 0, RackTlp.K_SHIFT, 0, RackTlp.K_ARM_TIME, 10, RackTlp.K_INFLIGHT, 1,
+            RackTlp.K_TIMER, RackTlp.RTO, RackTlp.K_TIMER_AT, 60);
+        check.due("the probe", x.txInfo(2), 1 + RackTlp.TX_RETX + RackTlp.TX_TLP);
+        check.due("its time", x.txTime(2), 30);
+        check.due("its segment", x.segment(1), 1 + 2 * 256);
+        check.due("the probe's timeout", x.tick(30), 1);
+        check.stats("timed out", x, RackTlp.K_RTOS, 1, RackTlp.K_TLP_OUT, 0, RackTlp.K_STATE, RackTlp.LOSS,
+            RackTlp.K_PRIOR_CWND, 5, RackTlp.K_SSTHRESH, 2, RackTlp.K_LOSS_MARKS, 0, RackTlp.K_TLPS, 1);
+        probesTheGreatestAndTimesOutTheLeast();
+    }
+
+    private static void probesTheGreatestAndTimesOutTheLeast() {
+        RackTlp x = new RackTlp(4, 100);
+        Check.writeMany(x, 3);
+        x.tick(10);
+        x.deliver(0);
+        // the probe of segment 2 and the timeout of segment 1 are both due at 30
+        check.due("tick(20)", x.tick(20), 2);
+        check.due("the probe", x.txInfo(3), 2 + RackTlp.TX_RETX + RackTlp.TX_TLP);
+        check.due("the timeout", x.txInfo(4), 1 + RackTlp.TX_RETX);
+        check.stats("both", x, RackTlp.K_TLPS, 1, RackTlp.K_RTOS, 1, RackTlp.K_TX_COUNT, 5);
+    }
+
+    private static void probesWithNewData() {
+        RackTlp x = new RackTlp(1, 100);
+        Check.writeMany(x, 2);
+        x.tick(10);
+        x.deliver(0);
+        Check.writeMany(x, 3);
+        check.stats("window full", x, RackTlp.K_CWND, 2, RackTlp.K_INFLIGHT, 2, RackTlp.K_NEXT_NEW, 3,
+            RackTlp.K_TIMER, RackTlp.PTO, RackTlp.K_TIMER_AT, 30);
+        check.due("tick(20)", x.tick(20), 1);
+        check.due("the probe", x.txInfo(3), 3 + RackTlp.TX_TLP);
+        check.stats("probed beyond the window", x, RackTlp.K_INFLIGHT, 3, RackTlp.K_CWND, 2,
+            RackTlp.K_NEXT_NEW, 4, RackTlp.K_ARM_TIME, 30, RackTlp.K_RETRANSMITS, 0, RackTlp.K_TX_COUNT, 4,
+            RackTlp.K_TIMER, RackTlp.RTO, RackTlp.K_TIMER_AT, 40);
+        x.deliver(3);
+        check.stats("an ack ends the probe", x, RackTlp.K_TLP_OUT, 0, RackTlp.K_TLPS, 1);
+    }
+
+    private static void timeoutComesBeforeALaterProbe() {
+        RackTlp x = new RackTlp(4, 100);
+        Check.writeMany(x, 3);
+        x.tick(10);
+        x.deliver(0);
+        x.tick(1);
+        x.deliver(1);
+        // srtt 10, rttvar 4: rto 26 from 0, probe 20 from 11
+        check.stats("probe too late", x, RackTlp.K_RTO, 26, RackTlp.K_PTO, 20, RackTlp.K_ARM_TIME, 11,
+            RackTlp.K_TIMER, RackTlp.RTO, RackTlp.K_TIMER_AT, 26);
+    }
+
+    private static void backsOff() {
+        RackTlp x = new RackTlp(8, 10);
+        Check.writeMany(x, 8);
+        check.due("tick(9)", x.tick(9), 0);
+        check.due("tick(1)", x.tick(1), 1);
+        check.stats("first timeout", x, RackTlp.K_RTOS, 1, RackTlp.K_STATE, RackTlp.LOSS, RackTlp.K_CWND, 1,
+            RackTlp.K_CNT, 0, RackTlp.K_SSTHRESH, 4, RackTlp.K_PRIOR_CWND, 8, RackTlp.K_PRIOR_SSTHRESH, 32,
+            RackTlp.K_SHIFT, 1, RackTlp.K_RTO, 20, RackTlp.K_RECOVERY_POINT, 8, RackTlp.K_LOSS_MARKS, 0,
+            RackTlp.K_INFLIGHT, 1, RackTlp.K_UNDO_RETRANS, 1, RackTlp.K_TX_COUNT, 9, RackTlp.K_TIMER_AT, 20);
+        check.due("segment 0", x.segment(0), 1 + 2 * 256 + 1048576);
+        check.due("segment 7", x.segment(7), 1 + 4 + 256);
+        int[] at = {20, 40, 80, 160, 320, 640};
+        for (int i = 0; i < at.length; i++) {
+            check.due("tick before " + at[i], x.tick(at[i] - x.stat(RackTlp.K_NOW) - 1), 0);
+            check.due("tick to " + at[i], x.tick(1), i < 5 ? 1 : 64);
+            check.due("txTime", x.txTime(9 + i), at[i]);
+            check.stats("timeout at " + at[i], x, RackTlp.K_SHIFT, i < 5 ? i + 2 : 6,
+                RackTlp.K_SSTHRESH, 4, RackTlp.K_PRIOR_CWND, 8);
+        }
+    }
+
+    private static void firesAtMostSixtyFour() {
+        RackTlp x = new RackTlp(8, 10);
+        Check.writeMany(x, 8);
+        int[] ids = {72, 136, 200, 256, 256};
+        for (int i = 0; i < ids.length; i++) {
+            check.due("tick", x.tick(i == 0 ? 10000 : 0), 64);
+            check.stats("tick", x, RackTlp.K_NOW, 10000, RackTlp.K_RTOS, 64 * (i + 1),
+                RackTlp.K_TX_COUNT, ids[i], RackTlp.K_RTO, 640, RackTlp.K_TIMER_AT, 640,
+                RackTlp.K_RETRANSMITS, ids[i] - 8, RackTlp.K_UNDO_RETRANS, ids[i] - 8);
+        }
+        check.due("sent within the first tick", x.txTime(71), 640);
+        check.due("sent within a later one", x.txTime(72), 10000);
+        check.due("segment 0", x.segment(0), 1 + 4 + 249 * 256 + 248 * 1048576);
+        x.deliver(1);
+        check.stats("a great sample", x, RackTlp.K_SRTT, 10000, RackTlp.K_RTTVAR, 5000,
+            RackTlp.K_RTO, 4000, RackTlp.K_SHIFT, 0);
+    }
+
+    private static void firesWhatIsDueInAnEmptyTick() {
+        RackTlp x = new RackTlp(4, 50);
+        Check.writeMany(x, 4);
+        x.tick(50);
+        x.tick(5);
+        x.deliver(0);
+        check.stats("due in the past", x, RackTlp.K_NOW, 55, RackTlp.K_TIMER_AT, 50);
+        check.due("tick(-3)", x.tick(-3), 1);
+        check.stats("time never goes back", x, RackTlp.K_NOW, 55, RackTlp.K_RTOS, 2, RackTlp.K_TIMER_AT, 100);
+        check.due("sent at", x.txTime(7), 55);
+        check.due("tick(0)", x.tick(0), 0);
+    }
+
+    private static void timeoutInRecovery() {
+        RackTlp x = new RackTlp(16, 100);
+        Check.writeMany(x, 16);
+        x.tick(10);
+        x.deliver(15);
+        x.tick(2);
+        check.stats("recovery", x, RackTlp.K_STATE, RackTlp.RECOVERY, RackTlp.K_CWND, 8,
+            RackTlp.K_SSTHRESH, 8, RackTlp.K_PRIOR_CWND, 17, RackTlp.K_UNDO_RETRANS, 8,
+            RackTlp.K_TIMER, RackTlp.RTO, RackTlp.K_TIMER_AT, 30);
+        x.write(1);
+        check.due("tick(18)", x.tick(18), 1);
+        // the episode goes on, so the first one's values stay
+        check.stats("loss", x, RackTlp.K_STATE, RackTlp.LOSS, RackTlp.K_CWND, 1, RackTlp.K_SSTHRESH, 4,
+            RackTlp.K_PRIOR_CWND, 17, RackTlp.K_PRIOR_SSTHRESH, 32, RackTlp.K_UNDO_RETRANS, 9,
+            RackTlp.K_LOSS_MARKS, 15, RackTlp.K_INFLIGHT, 1);
+        check.due("segment 0", x.segment(0), 1 + 3 * 256 + 2 * 1048576);
+    }
+
+    private static void probesWithoutIds() {
+        RackTlp x = new RackTlp(2, 4);
+        Check.writeMany(x, 2);
+        for (int i = 0; i < 10; i++) {
+            x.tick(1000);
+        }
+        check.stats("ids used up", x, RackTlp.K_TX_COUNT, 256, RackTlp.K_NOW, 10000);
+        x.deliverNoAck(0);
+        x.deliver(255);
+        int shiftless = x.stat(RackTlp.K_SHIFT);
+        check.due("an ack ends the backoff", shiftless, 0);
+        check.due("segment 1 is lost and can't go", x.segment(1), 1 + 4 + 256);
+        int[] before = Check.everything(x);
+        check.due("tick fires the timeout 64 times", x.tick(0), 64);
+        check.stats("no more ids", x, RackTlp.K_TX_COUNT, 256, RackTlp.K_RTOS, before[1 + RackTlp.K_RTOS] + 64);
+    }
+
+    private static void wrapsTheClock() {
+        RackTlp x = new RackTlp(4, 100);
+        for (int i = 0; i < 214748; i++) {
+            x.tick(10000);
+        }
+        x.tick(3640);
+        check.stats("near the end", x, RackTlp.K_NOW, 2147483640);
+        x.write(1);
+        check.stats("deadline past the end", x, RackTlp.K_TIMER_AT, 2147483640 + 100);
+        check.due("deadline wrapped, target not", x.tick(5), 64);
+        check.due("sent at", x.txTime(64), 2147483640);
+        check.due("both wrapped, deadline not reached", x.tick(10), 0);
+        check.stats("wrapped", x, RackTlp.K_NOW, 2147483645 + 10);
+    }
+}

@@ -2,8 +2,8 @@ import java.util.Random;
 
 /** Made-up runs, the same ones every time, on the program and on the model side by side. */
 public final class ModelTest {
-    private static final int RUNS = 1500;
-    private static final int CALLS = 250;
+    private static final int RUNS = 1200;
+    private static final int CALLS = 300;
     private static final int SHOWN = 20;
     /** Of a run whose transmissions mostly arrive in order, so that the window gets wide. */
     private static final int ORDERLY = 4;
@@ -46,10 +46,10 @@ public final class ModelTest {
 
     private static void oneCall(String where, Random random, int eagerness, int step, RackTlp x, Model m) {
         int what = random.nextInt(20);
-        if (what < 4) {
+        if (what < 5) {
             int b = random.nextInt();
             check.due(where + ": write(" + b + ")", x.write(b), m.write(b));
-        } else if (what < 8) {
+        } else if (what < 9) {
             int n = ticks(random, step);
             check.due(where + ": tick(" + n + ")", x.tick(n), m.tick(n));
         } else {
@@ -109,6 +109,7 @@ public final class ModelTest {
     private static void theRunsWentEverywhere() {
         check.due("the ids ran out", reached[RackTlp.K_TX_COUNT], 256);
         check.due("the segments ran out", reached[RackTlp.K_WRITTEN], 64);
+        check.due("every segment was sent", reached[RackTlp.K_NEXT_NEW], 64);
         check.due("the window was full", reached[RackTlp.K_CWND], 32);
         check.due("the backoff was full", reached[RackTlp.K_SHIFT], 6);
         check.due("the reordering window was full", reached[RackTlp.K_REO_MULT], 8);

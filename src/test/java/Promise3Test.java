@@ -13,6 +13,11 @@ public final class Promise3Test {
         undoesLoss();
         undoesNothingOnceOpen();
         undoMarksAgainWhatIsStillDue();
+        countsOnlyTheEpisodesOwnRetransmissions();
+        aNewEpisodeStartsAfresh();
+        aDuplicateAloneRearmsNothing();
+        leavesLossAtThePointAlone();
+        lossEndsTheRoundOfGrowth();
         widensTheReorderingWindow();
         noneIsNotMinusOne();
         check.end();
@@ -269,6 +274,96 @@ public final class Promise3Test {
             RackTlp.K_STATE, RackTlp.RECOVERY, RackTlp.K_PRIOR_CWND, 2, RackTlp.K_PRIOR_SSTHRESH, 32,
             RackTlp.K_CWND, 2, RackTlp.K_SSTHRESH, 2, RackTlp.K_UNDO_RETRANS, 1, RackTlp.K_TX_COUNT, 4);
         check.due("gone again", x.segment(1), 1 + 2 * 256 + 1048576);
+    }
+
+    private static void countsOnlyTheEpisodesOwnRetransmissions() {
+        RackTlp x = new RackTlp(4, 100);
+        Check.writeMany(x, 3);
+        x.tick(10);
+        x.deliver(0);
+        // probe of segment 2 in OPEN (id 3), then the timeout sends segment 1 (id 4)
+        check.due("tick(20)", x.tick(20), 2);
+        x.deliver(2);
+        check.due("the probe arrives", x.deliver(3), RackTlp.DUPLICATE);
+        check.stats("a probe is not of the episode", x, RackTlp.K_DSACKS, 1, RackTlp.K_UNDO_RETRANS, 1,
+            RackTlp.K_UNDOS, 0, RackTlp.K_STATE, RackTlp.LOSS, RackTlp.K_CWND, 2);
+        check.due("segment 2", x.segment(2), 1 + 2 + 8 + 2 * 256);
+    }
+
+    private static void aNewEpisodeStartsAfresh() {
+        RackTlp x = new RackTlp(4, 50);
+        x.write(1);
+        x.tick(50);
+        x.deliver(1);
+        check.stats("over", x, RackTlp.K_STATE, RackTlp.OPEN, RackTlp.K_UNDO_RETRANS, 1, RackTlp.K_CWND, 2);
+        check.due("ep stays", x.segment(0), 1 + 2 + 8 + 2 * 256 + 1048576);
+        x.write(2);
+        check.due("tick(50)", x.tick(50), 1);
+        check.stats("the next episode", x, RackTlp.K_STATE, RackTlp.LOSS, RackTlp.K_UNDO_RETRANS, 1,
+            RackTlp.K_PRIOR_CWND, 2, RackTlp.K_PRIOR_SSTHRESH, 2, RackTlp.K_RECOVERY_POINT, 2);
+        check.due("ep is gone", x.segment(0), 1 + 2 + 8 + 2 * 256);
+        check.due("ep is new", x.segment(1), 1 + 2 * 256 + 1048576);
+    }
+
+    private static void aDuplicateAloneRearmsNothing() {
+        RackTlp x = new RackTlp(2, 50);
+        Check.writeMany(x, 2);
+        x.tick(50);
+        x.deliver(0);
+        check.due("tick(50)", x.tick(50), 1);
+        x.tick(1);
+        check.due("deliver(2)", x.deliver(2), RackTlp.DUPLICATE);
+        check.stats("a DSACK alone", x, RackTlp.K_SHIFT, 1, RackTlp.K_ARM_TIME, 50, RackTlp.K_NOW, 101,
+            RackTlp.K_UNDO_RETRANS, 2, RackTlp.K_DELIVERED, 1);
+
+        RackTlp y = new RackTlp(4, 100);
+        y.write(1);
+        y.tick(100);
+        y.deliver(0);
+        Check.writeMany(y, 2);
+        y.tick(10);
+        y.deliver(2);
+        check.due("tick to the probe", y.tick(20), 1);
+        check.due("deliver(1)", y.deliver(1), RackTlp.DUPLICATE);
+        check.stats("a DSACK leaves the probe out", y, RackTlp.K_TLP_OUT, 1, RackTlp.K_ARM_TIME, 110);
+    }
+
+    private static void leavesLossAtThePointAlone() {
+        RackTlp x = new RackTlp(2, 50);
+        Check.writeMany(x, 2);
+        x.tick(50);
+        x.deliver(2);
+        x.write(3);
+        // segment 2 is above the point; segment 1 (id 3) is due at once and goes again as id 5
+        check.due("deliver(4)", x.deliver(4), RackTlp.NEW_DATA);
+        check.stats("one below is missing", x, RackTlp.K_STATE, RackTlp.LOSS, RackTlp.K_DELIVERED, 2,
+            RackTlp.K_RECOVERY_POINT, 2, RackTlp.K_TX_COUNT, 6, RackTlp.K_LOSS_MARKS, 1,
+            RackTlp.K_PRIOR_CWND, 2, RackTlp.K_UNDO_RETRANS, 3);
+        x.deliver(5);
+        check.stats("none is missing", x, RackTlp.K_STATE, RackTlp.OPEN);
+    }
+
+    private static RackTlp inTheMidstOfARound() {
+        RackTlp x = new RackTlp(4, 100);
+        Check.writeMany(x, 4);
+        x.tick(100);
+        for (int t = 4; t < 8; t++) {
+            x.deliver(t);
+        }
+        Check.writeMany(x, 2);
+        check.stats("midst of a round", x, RackTlp.K_CWND, 3, RackTlp.K_CNT, 1, RackTlp.K_TX_COUNT, 10);
+        return x;
+    }
+
+    private static void lossEndsTheRoundOfGrowth() {
+        RackTlp x = inTheMidstOfARound();
+        x.deliver(9);
+        check.stats("detected", x, RackTlp.K_STATE, RackTlp.RECOVERY, RackTlp.K_CNT, 0, RackTlp.K_CWND, 2,
+            RackTlp.K_PRIOR_CWND, 3, RackTlp.K_LOSS_MARKS, 1);
+        RackTlp y = inTheMidstOfARound();
+        check.due("tick(100)", y.tick(100), 1);
+        check.stats("timed out", y, RackTlp.K_STATE, RackTlp.LOSS, RackTlp.K_CNT, 0, RackTlp.K_CWND, 1,
+            RackTlp.K_PRIOR_CWND, 3);
     }
 
     private static void widensTheReorderingWindow() {

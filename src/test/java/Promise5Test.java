@@ -5,6 +5,7 @@ public final class Promise5Test {
     public static void main(String[] args) {
         clampsTheTime();
         firesReordering();
+        firesTheEarliestFirst();
         probesTheTail();
         probesWithNewData();
         timeoutComesBeforeALaterProbe();
@@ -12,7 +13,9 @@ public final class Promise5Test {
         firesAtMostSixtyFour();
         firesWhatIsDueInAnEmptyTick();
         timeoutInRecovery();
+        timesOutWithoutIds();
         probesWithoutIds();
+        firesWithEverySegmentSent();
         wrapsTheClock();
         check.end();
     }
@@ -47,6 +50,20 @@ public final class Promise5Test {
             RackTlp.K_UNDO_RETRANS, 2, RackTlp.K_RTOS, 0, RackTlp.K_TLPS, 0, RackTlp.K_SHIFT, 0,
             RackTlp.K_TX_COUNT, 5);
         check.due("the lost one goes before the new one", x.txInfo(4), 1 + RackTlp.TX_RETX);
+    }
+
+    private static void firesTheEarliestFirst() {
+        RackTlp x = new RackTlp(4, 100);
+        x.write(0);
+        x.tick(1);
+        Check.writeMany(x, 2);
+        x.tick(8);
+        x.deliver(2);
+        check.stats("two to come", x, RackTlp.K_NOW, 9, RackTlp.K_TIMER, RackTlp.REO, RackTlp.K_TIMER_AT, 10);
+        check.due("tick(1)", x.tick(1), 1);
+        check.stats("the first", x, RackTlp.K_LOSS_MARKS, 1, RackTlp.K_TIMER, RackTlp.REO, RackTlp.K_TIMER_AT, 11);
+        check.due("tick(1)", x.tick(1), 1);
+        check.stats("the second", x, RackTlp.K_LOSS_MARKS, 2, RackTlp.K_TIMER, RackTlp.RTO);
     }
 
     private static void probesTheTail() {
@@ -181,21 +198,78 @@ public final class Promise5Test {
         check.due("segment 0", x.segment(0), 1 + 3 * 256 + 2 * 1048576);
     }
 
-    private static void probesWithoutIds() {
+    private static void timesOutWithoutIds() {
         RackTlp x = new RackTlp(2, 4);
         Check.writeMany(x, 2);
         for (int i = 0; i < 10; i++) {
             x.tick(1000);
         }
         check.stats("ids used up", x, RackTlp.K_TX_COUNT, 256, RackTlp.K_NOW, 10000);
-        x.deliverNoAck(0);
         x.deliver(255);
-        int shiftless = x.stat(RackTlp.K_SHIFT);
-        check.due("an ack ends the backoff", shiftless, 0);
+        check.stats("an ack ends the backoff", x, RackTlp.K_SHIFT, 0);
         check.due("segment 1 is lost and can't go", x.segment(1), 1 + 4 + 256);
-        int[] before = Check.everything(x);
+        int rtos = x.stat(RackTlp.K_RTOS);
         check.due("tick fires the timeout 64 times", x.tick(0), 64);
-        check.stats("no more ids", x, RackTlp.K_TX_COUNT, 256, RackTlp.K_RTOS, before[1 + RackTlp.K_RTOS] + 64);
+        check.stats("no more ids", x, RackTlp.K_TX_COUNT, 256, RackTlp.K_RTOS, rtos + 64, RackTlp.K_SHIFT, 6);
+    }
+
+    private static void probesWithoutIds() {
+        RackTlp x = new RackTlp(2, 20);
+        x.write(0);
+        while (x.stat(RackTlp.K_TX_COUNT) < 253) {
+            x.tick(x.stat(RackTlp.K_TIMER_AT) - x.stat(RackTlp.K_NOW));
+        }
+        x.deliver(252);
+        x.write(1);
+        x.tick(10);
+        x.deliver(253);
+        Check.writeMany(x, 3);
+        int retransmits = x.stat(RackTlp.K_RETRANSMITS);
+        check.stats("ids used up", x, RackTlp.K_TX_COUNT, 256, RackTlp.K_SRTT, 10, RackTlp.K_STATE, RackTlp.OPEN,
+            RackTlp.K_NEXT_NEW, 4, RackTlp.K_WRITTEN, 5, RackTlp.K_TIMER, RackTlp.PTO);
+        check.due("tick to the probe", x.tick(20), 1);
+        check.stats("a probe without an id", x, RackTlp.K_TLPS, 1, RackTlp.K_TLP_OUT, 1, RackTlp.K_TX_COUNT, 256,
+            RackTlp.K_NEXT_NEW, 4, RackTlp.K_RETRANSMITS, retransmits, RackTlp.K_TIMER, RackTlp.RTO);
+        check.due("the last id is no probe", x.txInfo(255), 3);
+        check.due("the segment to come", x.segment(4), 0);
+    }
+
+    private static void firesWithEverySegmentSent() {
+        RackTlp x = lastFourOnTheirWay(0);
+        // samples of 0: probe after 2, timeout after 4
+        check.stats("all sent", x, RackTlp.K_NEXT_NEW, 64, RackTlp.K_INFLIGHT, 4,
+            RackTlp.K_TIMER, RackTlp.PTO, RackTlp.K_TIMER_AT, 2);
+        check.due("tick to the probe", x.tick(2), 1);
+        check.due("the probe", x.txInfo(64), 63 + RackTlp.TX_RETX + RackTlp.TX_TLP);
+        check.due("tick to the timeout", x.tick(2), 1);
+        check.stats("timed out", x, RackTlp.K_RTOS, 1, RackTlp.K_RECOVERY_POINT, 64, RackTlp.K_INFLIGHT, 1);
+        check.due("the timeout", x.txInfo(65), 60 + RackTlp.TX_RETX);
+        check.due("the last is lost", x.segment(63), 1 + 4 + 2 * 256);
+
+        RackTlp y = lastFourOnTheirWay(8);
+        check.stats("all sent", y, RackTlp.K_NOW, 480, RackTlp.K_SRTT, 8, RackTlp.K_RTTVAR, 0, RackTlp.K_RTO, 9,
+            RackTlp.K_TIMER, RackTlp.RTO, RackTlp.K_TIMER_AT, 489);
+        y.tick(8);
+        y.deliver(63);
+        check.stats("reordered", y, RackTlp.K_TIMER, RackTlp.REO, RackTlp.K_TIMER_AT, 490);
+        check.due("tick to the deadline", y.tick(2), 1);
+        check.stats("lost", y, RackTlp.K_LOSS_MARKS, 3, RackTlp.K_RECOVERY_POINT, 64, RackTlp.K_TX_COUNT, 67);
+        y.deliver(60);
+        y.deliver(61);
+        y.deliver(62);
+        check.stats("recovered", y, RackTlp.K_STATE, RackTlp.OPEN, RackTlp.K_COMPLETE, 1);
+    }
+
+    /** Segments 0 to 59 delivered one by one, each after the given time, then 60 to 63 sent. */
+    private static RackTlp lastFourOnTheirWay(int time) {
+        RackTlp x = new RackTlp(16, 100);
+        for (int i = 0; i < 60; i++) {
+            x.write(i);
+            x.tick(time);
+            x.deliver(i);
+        }
+        Check.writeMany(x, 4);
+        return x;
     }
 
     private static void wrapsTheClock() {

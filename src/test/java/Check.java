@@ -1,16 +1,29 @@
 import java.util.Arrays;
+import java.util.function.IntUnaryOperator;
 
 /** Counts the answers that are not the ones that are due, and tells each of them. */
 final class Check {
+    private String sentence = "";
+    private int sentences = 0;
     private int wrong = 0;
     private long done = 0;
+
+    /** The words of the document that the checks from here on are about. */
+    void sentence(String words) {
+        sentence = words;
+        sentences++;
+    }
 
     void due(String what, long got, long want) {
         done++;
         if (got != want) {
-            wrong++;
-            System.out.println(what + ": answered " + got + ", due is " + want);
+            tellWrong(what + ": answered " + got + ", due is " + want);
         }
+    }
+
+    private void tellWrong(String text) {
+        wrong++;
+        System.out.println(sentence.isEmpty() ? text : text + " [" + sentence + "]");
     }
 
     /** As above, but the text is put together only when it is needed: for very many checks. */
@@ -32,8 +45,20 @@ final class Check {
     void same(String what, int[] got, int[] want) {
         done++;
         if (!Arrays.equals(got, want)) {
-            wrong++;
-            System.out.println(what + ": something changed, at place " + Arrays.mismatch(got, want));
+            tellWrong(what + ": something changed, at place " + Arrays.mismatch(got, want));
+        }
+    }
+
+    /** A call that must answer as told and leave all that the getters tell as it was. */
+    void changesNothing(String name, RackTlp x, IntUnaryOperator call, int argument, int want) {
+        int[] before = everything(x);
+        due(name + "(" + argument + ")", call.applyAsInt(argument), want);
+        same(name + "(" + argument + ")", everything(x), before);
+    }
+
+    void refused(String name, RackTlp x, IntUnaryOperator call, int... arguments) {
+        for (int argument : arguments) {
+            changesNothing(name, x, call, argument, RackTlp.REFUSED);
         }
     }
 
@@ -42,7 +67,8 @@ final class Check {
     }
 
     void end() {
-        System.out.println(done + " checks, " + wrong + " wrong");
+        String about = sentences == 0 ? "" : " on " + sentences + " sentences";
+        System.out.println(done + " checks" + about + ", " + wrong + " wrong");
         if (wrong != 0) {
             System.exit(1);
         }
@@ -84,6 +110,28 @@ final class Check {
             all[i] = all[i] == -1 ? -1 : all[i] & ~RackTlp.TX_ARRIVED;
         }
         return all;
+    }
+
+    /** All that the getters tell of an object, with the time left out. */
+    static int[] everythingButNow(RackTlp x) {
+        int[] all = everything(x);
+        all[1 + RackTlp.K_NOW] = 0;
+        return all;
+    }
+
+    /** Ticks until it is the given time, past the greatest int if that is the way. */
+    static void passTo(RackTlp x, int time) {
+        long left = Integer.toUnsignedLong(time - x.stat(RackTlp.K_NOW));
+        while (left > 0) {
+            int step = (int) Math.min(left, 10000);
+            x.tick(step);
+            left -= step;
+        }
+    }
+
+    /** Ticks to the time of the timer that is set. */
+    static void passToTimer(RackTlp x) {
+        x.tick(x.stat(RackTlp.K_TIMER_AT) - x.stat(RackTlp.K_NOW));
     }
 
     static void writeMany(RackTlp x, int count) {

@@ -1,42 +1,141 @@
 /** Promise 3: deliver, and with it ACK and what ACK runs. */
 public final class Promise3Test {
+    private static final int MIN = Integer.MIN_VALUE;
+    private static final int MAX = Integer.MAX_VALUE;
     private static final Check check = new Check();
 
     public static void main(String[] args) {
-        refusesWrongIds();
+        check.sentence("Promise 3: \"If t < 0 .. it answers REFUSED and changes nothing\"");
+        refusesBelowZero();
+        check.sentence("Promise 3: \"If .. t >= the number of ids made .. it answers REFUSED and changes nothing\"");
+        refusesWhatWasNeverMade();
+        refusesAboveTheLastOfAllIds();
+        check.sentence("Promise 3: \"If .. arrived(t) is already true, it answers REFUSED and changes nothing\"");
+        refusesWhatHasArrived();
+        check.sentence("Promise 3: \"a transmission id can be delivered at most once, whatever its segment's state\"");
+        refusesWhateverTheSegmentsState();
+        check.sentence("Promise 3: \"The answer is DUPLICATE if dup, else NEW_DATA\"");
+        tellsDuplicatesFromNewData();
+        check.sentence("Promise 3: \"now itself does not change\"");
+        timeStands();
+        check.sentence("Promise 3: \"Step a of ACK handles every received segment not yet delivered\"");
+        learnsWhatCameUnacknowledged();
+        check.sentence("Terms: SAMPLE");
         takesSamples();
+        check.sentence("Terms: GROW");
         growsSlowlyThenCarefully();
+        lossEndsTheRoundOfGrowth();
+        check.sentence("Terms: DETECT: \"every candidate s with deadline(s) <= now\"");
         detectsAtOnceWhenDue();
         recoversAndLeavesRecovery();
-        learnsWhatCameUnacknowledged();
+        check.sentence("Terms: ACK, a: \"unless (sends(s) > 1 and minRtt is not none and r < minRtt)\"");
         ignoresTooShortTimes();
+        check.sentence("Terms: ACK, b: \"If step a handled at least one segment\"");
+        aDuplicateAloneRearmsNothing();
+        check.sentence("Terms: ACK, c: \"if state != OPEN and ep(s0) > 0 .. if undoRetrans == 0, UNDO\"");
         undoesLoss();
         undoesNothingOnceOpen();
         undoMarksAgainWhatIsStillDue();
+        undoClearsLostSegments();
         countsOnlyTheEpisodesOwnRetransmissions();
+        check.sentence("Terms: EPISODE");
         aNewEpisodeStartsAfresh();
-        aDuplicateAloneRearmsNothing();
+        check.sentence("Terms: ACK, d: \"every s < recoveryPoint is delivered\"");
         leavesLossAtThePointAlone();
-        lossEndsTheRoundOfGrowth();
-        widensTheReorderingWindow();
-        noneIsNotMinusOne();
         check.end();
     }
 
-    private static void refusesWrongIds() {
+    private static void refusesBelowZero() {
         RackTlp x = new RackTlp(4, 100);
+        check.refused("deliver", x, x::deliver, -1, MIN);
         Check.writeMany(x, 6);
-        check.due("deliver(2)", x.deliver(2), RackTlp.NEW_DATA);
-        // At time 0 segments 0 and 1 are due at once: cwnd 2 lets id 4 go, and no more.
-        int[] before = Check.everything(x);
-        int[] wrong = {-1, 2, 5, 6, 64, 255, 256, 1000, Integer.MIN_VALUE, Integer.MAX_VALUE};
-        for (int t : wrong) {
-            check.due("deliver(" + t + ")", x.deliver(t), RackTlp.REFUSED);
-            check.same("deliver(" + t + ")", Check.everything(x), before);
+        x.tick(10);
+        x.deliver(1);
+        check.refused("deliver", x, x::deliver, -1, -2, -4, -256, MIN, MIN + 1);
+        check.due("deliver(0)", x.deliver(0), RackTlp.NEW_DATA);
+    }
+
+    private static void refusesWhatWasNeverMade() {
+        RackTlp x = new RackTlp(4, 100);
+        check.refused("deliver with no id", x, x::deliver, 0, 1, 255, 256, MAX);
+        Check.writeMany(x, 4);
+        check.refused("deliver with 4 ids", x, x::deliver, 4, 5, 63, 64, 255, 256, 257, MAX);
+        check.due("deliver(3)", x.deliver(3), RackTlp.NEW_DATA);
+        // at time 0 the other three are due at once; a window of 2 lets two of them go
+        check.stats("6 ids", x, RackTlp.K_TX_COUNT, 6);
+        check.refused("deliver with 6 ids", x, x::deliver, 6, 7, 255, 256, MAX);
+        check.due("deliver(5)", x.deliver(5), RackTlp.NEW_DATA);
+    }
+
+    private static void refusesAboveTheLastOfAllIds() {
+        RackTlp x = new RackTlp(2, 4);
+        Check.writeMany(x, 2);
+        for (int i = 0; i < 10; i++) {
+            x.tick(1000);
         }
-        check.due("deliver(4)", x.deliver(4), RackTlp.NEW_DATA);
-        check.due("deliver(4) again", x.deliver(4), RackTlp.REFUSED);
-        check.due("deliver(0), the same segment", x.deliver(0), RackTlp.DUPLICATE);
+        check.stats("ids used up", x, RackTlp.K_TX_COUNT, 256);
+        check.refused("deliver", x, x::deliver, 256, 257, 512, MAX);
+        check.due("deliver(255)", x.deliver(255), RackTlp.NEW_DATA);
+        check.refused("deliver", x, x::deliver, 255, 256);
+    }
+
+    private static void refusesWhatHasArrived() {
+        RackTlp x = new RackTlp(4, 100);
+        Check.writeMany(x, 4);
+        x.tick(5);
+        check.due("deliver(0)", x.deliver(0), RackTlp.NEW_DATA);
+        check.refused("deliver of a delivered one", x, x::deliver, 0);
+        check.refused("deliverNoAck of a delivered one", x, x::deliverNoAck, 0);
+        check.due("deliverNoAck(1)", x.deliverNoAck(1), RackTlp.NEW_DATA);
+        // an ack now would tell of segment 1, but a refused call brings none
+        check.refused("deliver of one whose ack was lost", x, x::deliver, 1);
+        x.tick(4);
+        check.refused("deliver later", x, x::deliver, 0, 1);
+        check.due("segment 1 is still to be learned", x.segment(1), 1 + 8 + 256);
+    }
+
+    private static void refusesWhateverTheSegmentsState() {
+        RackTlp x = new RackTlp(3, 20);
+        Check.writeMany(x, 3);
+        x.deliverNoAck(1);
+        x.tick(20);
+        check.due("received and lost", x.segment(1), 1 + 4 + 8 + 256);
+        check.refused("deliver, its segment is lost", x, x::deliver, 1);
+        x.deliver(0);
+        check.due("delivered", x.segment(1), 1 + 2 + 8 + 256);
+        check.refused("deliver, its segment is delivered", x, x::deliver, 0, 1);
+        check.due("another id of the same segment", x.deliver(3), RackTlp.DUPLICATE);
+        check.refused("deliver, it came as a duplicate", x, x::deliver, 3);
+    }
+
+    private static void tellsDuplicatesFromNewData() {
+        RackTlp x = new RackTlp(2, 20);
+        x.write(300);
+        x.write(301);
+        x.tick(80);
+        // segment 0 at 0, 20, 40 and 80; segment 1 at 0
+        check.stats("sent again", x, RackTlp.K_TX_COUNT, 5, RackTlp.K_CUM_ACK, 0);
+        check.due("received through deliver", x.deliver(3), RackTlp.NEW_DATA);
+        check.due("its byte", x.recvByte(0), 44);
+        check.due("an earlier id of the same segment", x.deliver(0), RackTlp.DUPLICATE);
+        check.due("a later id of the same segment", x.deliver(4), RackTlp.DUPLICATE);
+        check.due("its byte stays", x.recvByte(0), 44);
+        check.stats("two DSACKs", x, RackTlp.K_DSACKS, 2, RackTlp.K_CUM_ACK, 1);
+        int again = x.stat(RackTlp.K_TX_COUNT) - 1;
+        check.due("segment 1 went again", x.txInfo(again), 1 + RackTlp.TX_RETX);
+        check.due("received through deliverNoAck", x.deliverNoAck(1), RackTlp.NEW_DATA);
+        check.due("the ack of it and of the duplicate", x.deliver(again), RackTlp.DUPLICATE);
+        check.stats("both learned", x, RackTlp.K_DSACKS, 3, RackTlp.K_DELIVERED, 2, RackTlp.K_CUM_ACK, 2);
+    }
+
+    private static void timeStands() {
+        RackTlp x = new RackTlp(4, 100);
+        Check.writeMany(x, 8);
+        x.tick(10);
+        for (int t = 0; t < 8; t++) {
+            x.deliver(t);
+            check.stats("deliver(" + t + ")", x, RackTlp.K_NOW, 10);
+        }
     }
 
     private static void takesSamples() {
@@ -83,18 +182,6 @@ public final class Promise3Test {
         x.write(1);
         x.deliver(9);
         check.stats("avoidance in OPEN, round full", x, RackTlp.K_CWND, 4, RackTlp.K_CNT, 0);
-        windowHasACeiling();
-    }
-
-    private static void windowHasACeiling() {
-        RackTlp x = new RackTlp(16, 100);
-        for (int i = 0; i < 64; i++) {
-            x.write(i);
-            x.deliver(i);
-            int due = i < 16 ? 17 + i : 32;
-            check.stats("delivered " + i, x, RackTlp.K_CWND, due,
-                RackTlp.K_CNT, i < 16 ? 0 : (i - 15) % 32);
-        }
     }
 
     private static void detectsAtOnceWhenDue() {
@@ -258,7 +345,6 @@ public final class Promise3Test {
         x.deliver(14);
         check.stats("undone", x, RackTlp.K_UNDO_RETRANS, 0, RackTlp.K_UNDOS, 1, RackTlp.K_CWND, 9,
             RackTlp.K_SSTHRESH, 32, RackTlp.K_STATE, RackTlp.OPEN, RackTlp.K_DSACKS, 7, RackTlp.K_REO_MULT, 8);
-        undoClearsLostSegments();
     }
 
     private static void undoClearsLostSegments() {
@@ -366,35 +452,4 @@ public final class Promise3Test {
             RackTlp.K_PRIOR_CWND, 3);
     }
 
-    private static void widensTheReorderingWindow() {
-        RackTlp x = new RackTlp(4, 4);
-        x.write(1);
-        x.tick(2000);
-        check.due("deliver(0)", x.deliver(0), RackTlp.NEW_DATA);
-        for (int t = 1; t <= 9; t++) {
-            check.due("deliver(" + t + ")", x.deliver(t), RackTlp.DUPLICATE);
-            check.stats("DSACK " + t, x, RackTlp.K_DSACKS, t, RackTlp.K_REO_MULT, t < 7 ? t + 1 : 8,
-                RackTlp.K_REO_WND, 0);
-        }
-        int id = x.stat(RackTlp.K_TX_COUNT);
-        x.write(2);
-        x.tick(3);
-        x.deliver(id);
-        check.stats("no wider than srtt", x, RackTlp.K_SRTT, 3, RackTlp.K_MIN_RTT, 3, RackTlp.K_REO_WND, 3);
-    }
-
-    /** After the clock has wrapped once round, an estimate may be -1 without being none. */
-    private static void noneIsNotMinusOne() {
-        RackTlp x = new RackTlp(2, 4);
-        Check.writeMany(x, 2);
-        // RTOs send segment 0 again and again until no id is left; segment 1 goes once, at 0.
-        for (int i = 0; i < 429496; i++) {
-            x.tick(10000);
-        }
-        x.tick(7295);
-        check.stats("once round", x, RackTlp.K_NOW, -1, RackTlp.K_TX_COUNT, 256);
-        check.due("deliver(1)", x.deliver(1), RackTlp.NEW_DATA);
-        check.stats("a sample of -1", x, RackTlp.K_SRTT, -1, RackTlp.K_RTTVAR, 0, RackTlp.K_MIN_RTT, -1,
-            RackTlp.K_REO_WND, -1, RackTlp.K_PTO, 2, RackTlp.K_RTO, 4, RackTlp.K_RACK_TX, 1);
-    }
 }

@@ -8,7 +8,9 @@ import java.nio.file.Files;
 import java.nio.file.Path;
 import java.util.Arrays;
 import java.util.List;
+import java.util.Map;
 import java.util.Set;
+import java.util.TreeMap;
 import java.util.TreeSet;
 import java.util.regex.Matcher;
 import java.util.regex.Pattern;
@@ -40,6 +42,7 @@ public final class LanguageTest {
         String code = withoutComments(Files.readString(Path.of("src/main/java/RackTlp.java")));
         theTextIsAsRuled(code);
         methodsAreShort(code);
+        callsGoAtMostSixDeep(code);
         check.end();
     }
 
@@ -129,14 +132,37 @@ public final class LanguageTest {
         isTrue("no call inside another's arguments", !nested.find());
     }
 
-    private static void methodsAreShort(String code) {
-        Matcher method = Pattern.compile("(?ms)^    (?:public|private)[^\n;=]*\\{\n(.*?)^    \\}").matcher(code);
-        int count = 0;
+    private static Map<String, String> bodies(String code) {
+        Map<String, String> bodies = new TreeMap<>();
+        Matcher method = Pattern.compile("(?ms)^    (?:public|private)[^\n;=]*?(\\w+)\\([^\n;=]*\\{\n(.*?)^    \\}")
+            .matcher(code);
         while (method.find()) {
-            count++;
-            long lines = method.group(1).lines().count();
-            isTrue("at most sixty lines: " + lines, lines <= 60);
+            isTrue("one method of the name " + method.group(1), bodies.put(method.group(1), method.group(2)) == null);
         }
-        isTrue("methods were found", count > 10);
+        isTrue("every method was found", bodies.size() == RackTlp.class.getDeclaredMethods().length + 1);
+        return bodies;
+    }
+
+    private static void methodsAreShort(String code) {
+        bodies(code).forEach((name, body) -> isTrue(name + " has at most sixty lines", body.lines().count() <= 60));
+    }
+
+    /** A method that calls itself, through others or not, would be found to go deeper than any bound. */
+    private static void callsGoAtMostSixDeep(String code) {
+        Map<String, String> bodies = bodies(code);
+        Set<String> reached = bodies.keySet();
+        for (int depth = 1; depth <= 6; depth++) {
+            Set<String> called = new TreeSet<>();
+            for (String name : reached) {
+                Matcher call = Pattern.compile("\\b(\\w+)\\(").matcher(bodies.get(name));
+                while (call.find()) {
+                    if (bodies.containsKey(call.group(1))) {
+                        called.add(call.group(1));
+                    }
+                }
+            }
+            reached = called;
+        }
+        isTrue("no seventh method below six others: " + reached, reached.isEmpty());
     }
 }

@@ -71,6 +71,11 @@ final class Model {
         this.initRto = Math.max(4, Math.min(1000, initRto));
     }
 
+    /** What ticks do while nothing is outstanding, in one step: a clock near its end takes very many. */
+    void passIdle(int time) {
+        now = time;
+    }
+
     int write(int b) {
         if (segs.size() == 64) {
             return -1;

@@ -2,7 +2,7 @@ import java.util.Random;
 
 /** Made-up runs, the same ones every time, on the program and on the model side by side. */
 public final class ModelTest {
-    private static final int RUNS = 1200;
+    private static final int RUNS = 1400;
     private static final int CALLS = 300;
     private static final int SHOWN = 20;
     /** Of a run whose transmissions mostly arrive in order, so that the window gets wide. */
@@ -14,34 +14,59 @@ public final class ModelTest {
 
     public static void main(String[] args) {
         for (int run = 0; run < RUNS && check.wrong() < SHOWN; run++) {
-            oneRun(run, 0);
-        }
-        for (int run = 0; run < 3 && check.wrong() < SHOWN; run++) {
-            oneRun(RUNS + run, 214748);
+            oneRun(run);
         }
         theRunsWentEverywhere();
         check.end();
     }
 
-    private static void oneRun(int run, int idleTicks) {
+    private static void oneRun(int run) {
         Random random = new Random(run);
         int initCwnd = random.nextInt(20) - 1;
         int initRto = random.nextInt(4) == 0 ? random.nextInt(1200) : random.nextInt(60);
         RackTlp x = new RackTlp(initCwnd, initRto);
         Model m = new Model(initCwnd, initRto);
-        for (int i = 0; i < idleTicks; i++) {
-            x.tick(10000);
-            m.tick(10000);
-        }
-        if (idleTicks > 0) {
-            x.tick(3000);
-            m.tick(3000);
-        }
         int eagerness = random.nextInt(4) == 0 ? ORDERLY : random.nextInt(4);
         int step = 1 + random.nextInt(30);
+        startNearAnEdge(run, random, step, x, m);
+        compare("run " + run + ", at its start", x, m);
         for (int call = 0; call < CALLS && check.wrong() < SHOWN; call++) {
             oneCall("run " + run + ", call " + call, random, eagerness, step, x, m);
         }
+    }
+
+    /** Half of the runs start where the clock wraps, the segments end or the ids end soon, or two of these. */
+    private static void startNearAnEdge(int run, Random random, int step, RackTlp x, Model m) {
+        if (run % 6 == 0) {
+            int time = Integer.MAX_VALUE - random.nextInt(4000);
+            Check.passTo(x, time);
+            m.passIdle(time);
+        }
+        if (run % 24 == 0 || run % 6 == 1) {
+            mostSegmentsDelivered(56 + random.nextInt(7), step, x, m);
+        }
+        if (run % 24 == 6 || run % 6 == 2) {
+            mostIdsMade(225 + random.nextInt(30), x, m);
+        }
+    }
+
+    private static void mostSegmentsDelivered(int count, int step, RackTlp x, Model m) {
+        for (int s = 0; s < count; s++) {
+            check.due("write", x.write(s), m.write(s));
+            check.due("tick", x.tick(s % step), m.tick(s % step));
+            int t = x.stat(RackTlp.K_TX_COUNT) - 1;
+            check.due("deliver", x.deliver(t), m.deliver(t));
+        }
+    }
+
+    private static void mostIdsMade(int count, RackTlp x, Model m) {
+        check.due("write", x.write(7), m.write(7));
+        for (int t = 1; t < count; t++) {
+            int wait = x.stat(RackTlp.K_TIMER_AT) - x.stat(RackTlp.K_NOW);
+            check.due("tick", x.tick(wait), m.tick(wait));
+        }
+        int t = x.stat(RackTlp.K_TX_COUNT) - 1;
+        check.due("deliver", x.deliver(t), m.deliver(t));
     }
 
     private static void oneCall(String where, Random random, int eagerness, int step, RackTlp x, Model m) {

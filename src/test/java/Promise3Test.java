@@ -20,6 +20,7 @@ public final class Promise3Test {
         timeStands();
         check.sentence("Promise 3: \"Step a of ACK handles every received segment not yet delivered\"");
         learnsWhatCameUnacknowledged();
+        learnsInIncreasingOrder();
         check.sentence("Terms: SAMPLE");
         takesSamples();
         check.sentence("Terms: GROW");
@@ -37,9 +38,11 @@ public final class Promise3Test {
         undoesNothingOnceOpen();
         undoMarksAgainWhatIsStillDue();
         undoClearsLostSegments();
+        undoClearsTheLastSegmentToo();
         countsOnlyTheEpisodesOwnRetransmissions();
         check.sentence("Terms: EPISODE");
         aNewEpisodeStartsAfresh();
+        aNewEpisodeForgetsTheLastSegmentToo();
         check.sentence("Terms: ACK, d: \"every s < recoveryPoint is delivered\"");
         leavesLossAtThePointAlone();
         check.end();
@@ -248,6 +251,19 @@ public final class Promise3Test {
         check.due("deliver(0)", x.deliver(0), RackTlp.REFUSED);
     }
 
+    private static void learnsInIncreasingOrder() {
+        RackTlp x = new RackTlp(4, 100);
+        x.write(0);
+        x.tick(6);
+        x.write(1);
+        x.tick(10);
+        x.deliverNoAck(0);
+        check.due("deliver(1)", x.deliver(1), RackTlp.NEW_DATA);
+        // 16, then 10: rttvar (24 + 6) / 4, srtt (112 + 10) / 8
+        check.stats("16 is the first sample", x, RackTlp.K_RTTVAR, 7, RackTlp.K_SRTT, 15, RackTlp.K_MIN_RTT, 10,
+            RackTlp.K_RACK_TX, 1, RackTlp.K_RACK_RTT, 10);
+    }
+
     private static void ignoresTooShortTimes() {
         RackTlp x = new RackTlp(4, 100);
         Check.writeMany(x, 2);
@@ -362,6 +378,33 @@ public final class Promise3Test {
         check.due("gone again", x.segment(1), 1 + 2 * 256 + 1048576);
     }
 
+    /** So many segments delivered one by one after 8 each: srtt and minRtt 8, rttvar 0, a timeout after 9. */
+    private static RackTlp deliveredAfterEight(int count) {
+        RackTlp x = new RackTlp(16, 100);
+        for (int i = 0; i < count; i++) {
+            x.write(i);
+            x.tick(8);
+            x.deliver(i);
+        }
+        check.stats("steady", x, RackTlp.K_SRTT, 8, RackTlp.K_RTO, 9, RackTlp.K_TX_COUNT, count, RackTlp.K_CWND, 32);
+        return x;
+    }
+
+    private static void undoClearsTheLastSegmentToo() {
+        RackTlp x = deliveredAfterEight(60);
+        Check.writeMany(x, 4);
+        check.due("tick(9)", x.tick(9), 1);
+        check.due("lost", x.segment(63), 1 + 4 + 256);
+        x.deliverNoAck(60);
+        check.due("deliver(64)", x.deliver(64), RackTlp.DUPLICATE);
+        // id 64 came in less than minRtt, so rackTx stays and nothing is a candidate
+        check.stats("undone", x, RackTlp.K_UNDOS, 1, RackTlp.K_STATE, RackTlp.OPEN, RackTlp.K_CWND, 32,
+            RackTlp.K_INFLIGHT, 3, RackTlp.K_RACK_TX, 59, RackTlp.K_LOSS_MARKS, 0, RackTlp.K_TX_COUNT, 65);
+        for (int s = 61; s < 64; s++) {
+            check.due("segment(" + s + ")", x.segment(s), 1 + 256);
+        }
+    }
+
     private static void countsOnlyTheEpisodesOwnRetransmissions() {
         RackTlp x = new RackTlp(4, 100);
         Check.writeMany(x, 3);
@@ -389,6 +432,32 @@ public final class Promise3Test {
             RackTlp.K_PRIOR_CWND, 2, RackTlp.K_PRIOR_SSTHRESH, 2, RackTlp.K_RECOVERY_POINT, 2);
         check.due("ep is gone", x.segment(0), 1 + 2 + 8 + 2 * 256);
         check.due("ep is new", x.segment(1), 1 + 2 * 256 + 1048576);
+    }
+
+    private static void aNewEpisodeForgetsTheLastSegmentToo() {
+        RackTlp x = deliveredAfterEight(59);
+        x.write(59);
+        x.tick(4);
+        x.deliver(59);
+        // srtt 7, rttvar 1, minRtt 4: a timeout after 11
+        x.write(60);
+        x.tick(1);
+        Check.writeMany(x, 2);
+        x.tick(7);
+        x.deliver(62);
+        // segment 60 is lost at once and goes again as id 63; segment 61 does after 63, as id 65
+        x.write(63);
+        check.due("tick(1)", x.tick(1), 1);
+        check.stats("recovery", x, RackTlp.K_STATE, RackTlp.RECOVERY, RackTlp.K_RECOVERY_POINT, 63,
+            RackTlp.K_NEXT_NEW, 64, RackTlp.K_TX_COUNT, 66);
+        x.tick(4);
+        x.deliver(65);
+        x.deliver(60);
+        check.stats("open, the last one on its way", x, RackTlp.K_STATE, RackTlp.OPEN, RackTlp.K_DELIVERED, 63);
+        check.due("ep stays", x.segment(63), 1 + 2 * 256 + 1048576);
+        check.due("tick(8)", x.tick(8), 1);
+        check.stats("the next episode", x, RackTlp.K_STATE, RackTlp.LOSS, RackTlp.K_UNDO_RETRANS, 1);
+        check.due("ep is new", x.segment(63), 1 + 3 * 256 + 1048576);
     }
 
     private static void aDuplicateAloneRearmsNothing() {

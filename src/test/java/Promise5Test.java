@@ -29,6 +29,7 @@ public final class Promise5Test {
         check.sentence("Terms: FIRE, PTO");
         probesTheTail();
         probesTheGreatestAndTimesOutTheLeast();
+        probesTheGreatestOutstandingNotTheNewest();
         probesWithNewData();
         timeoutComesBeforeALaterProbe();
         check.sentence("Terms: FIRE, RTO");
@@ -248,6 +249,28 @@ public final class Promise5Test {
         check.due("the probe", x.txInfo(3), 2 + RackTlp.TX_RETX + RackTlp.TX_TLP);
         check.due("the timeout", x.txInfo(4), 1 + RackTlp.TX_RETX);
         check.stats("both", x, RackTlp.K_TLPS, 1, RackTlp.K_RTOS, 1, RackTlp.K_TX_COUNT, 5);
+    }
+
+    private static void probesTheGreatestOutstandingNotTheNewest() {
+        RackTlp x = new RackTlp(8, 100);
+        x.write(0);
+        x.tick(1);
+        x.write(1);
+        x.tick(10);
+        x.deliver(1);
+        check.due("segment 0 is lost at 12", x.tick(1), 1);
+        Check.writeMany(x, 2);
+        x.tick(10);
+        x.deliver(4);
+        // segment 3 has come, so 0 and 2 are lost at 24; 2 is not below the recovery point
+        check.due("tick(2)", x.tick(2), 1);
+        check.stats("sent again", x, RackTlp.K_LOSS_MARKS, 3, RackTlp.K_TX_COUNT, 7, RackTlp.K_RECOVERY_POINT, 2);
+        x.deliver(0);
+        check.stats("open", x, RackTlp.K_STATE, RackTlp.OPEN, RackTlp.K_INFLIGHT, 1, RackTlp.K_RACK_TX, 4,
+            RackTlp.K_TIMER, RackTlp.PTO, RackTlp.K_TIMER_AT, 44);
+        check.due("tick(20)", x.tick(20), 1);
+        check.due("the probe", x.txInfo(7), 2 + RackTlp.TX_RETX + RackTlp.TX_TLP);
+        check.due("the newest is delivered", x.segment(3), 1 + 2 + 8 + 256);
     }
 
     private static void probesWithNewData() {

@@ -22,6 +22,7 @@ public final class TermsIdsTest {
         check.sentence("Terms: FIRE, PTO: \"if an id was made, tlp of it = true\"");
         aProbeOfNewDataSendsNothing();
         aProbeOfTheTailSendsNothing();
+        aProbeLeavesALostTailLost();
         aProbeTakesTheLastId();
         check.sentence("Terms: SEND: \"repeat while fewer than 256 ids exist and inflight < cwnd\"");
         sendStopsAtTheLastId();
@@ -32,20 +33,20 @@ public final class TermsIdsTest {
     }
 
     /** So many ids, all of segment 0 and one by one: the first by write, the others by timeouts. */
-    private static RackTlp timedOut(int initCwnd, int segments, int ids) {
-        RackTlp x = new RackTlp(initCwnd, 20);
+    private static RackTlp timedOut(int initCwnd, int initRto, int segments, int ids) {
+        RackTlp x = new RackTlp(initCwnd, initRto);
         Check.writeMany(x, segments);
         for (int t = 1; t < ids; t++) {
             Check.passToTimer(x);
         }
         check.stats("timed out", x, RackTlp.K_TX_COUNT, ids, RackTlp.K_RTOS, ids - 1, RackTlp.K_CWND, 1,
-            RackTlp.K_SSTHRESH, 2, RackTlp.K_INFLIGHT, 1);
+            RackTlp.K_INFLIGHT, 1);
         return x;
     }
 
     /** As above, and then segment 0 is delivered: OPEN, with a window of 2 and nothing on its way. */
     private static RackTlp openWith(int ids) {
-        RackTlp x = timedOut(2, 1, ids);
+        RackTlp x = timedOut(2, 20, 1, ids);
         x.deliver(ids - 1);
         check.stats("open", x, RackTlp.K_STATE, RackTlp.OPEN, RackTlp.K_CWND, 2, RackTlp.K_INFLIGHT, 0,
             RackTlp.K_SHIFT, 0, RackTlp.K_TX_COUNT, ids, RackTlp.K_SRTT, -1);
@@ -65,7 +66,7 @@ public final class TermsIdsTest {
     }
 
     private static void aLargerIdIsNotOlder() {
-        RackTlp x = timedOut(4, 1, 200);
+        RackTlp x = timedOut(4, 20, 1, 200);
         for (int t = 1; t < 200; t++) {
             check.due("sent later", x.txTime(t) > x.txTime(t - 1) ? 1 : 0, 1);
         }
@@ -141,7 +142,7 @@ public final class TermsIdsTest {
     }
 
     private static void timeoutsGoOnFiring() {
-        RackTlp x = timedOut(2, 1, 256);
+        RackTlp x = timedOut(2, 20, 1, 256);
         for (int rtos = 256; rtos < 300; rtos++) {
             check.due("tick", x.tick(10000), 64);
             check.stats("no more ids", x, RackTlp.K_TX_COUNT, 256, RackTlp.K_RTOS, 255 + 64 * (rtos - 255));
@@ -186,6 +187,34 @@ public final class TermsIdsTest {
         check.stats("the timeout comes", x, RackTlp.K_RTOS, 253, RackTlp.K_TLP_OUT, 0, RackTlp.K_TX_COUNT, 256);
     }
 
+    private static void aProbeLeavesALostTailLost() {
+        RackTlp x = timedOut(16, 100, 1, 247);
+        x.deliver(246);
+        // samples of 40 take rttvar to 8, and the window from 2 to 6
+        for (int t = 247; t <= 250; t++) {
+            x.write(t);
+            x.tick(40);
+            x.deliver(t);
+        }
+        Check.writeMany(x, 2);
+        x.tick(40);
+        x.deliver(252);
+        check.due("segment 5 is lost", x.tick(10), 1);
+        Check.writeMany(x, 2);
+        check.stats("the last two ids are new data", x, RackTlp.K_TX_COUNT, 256, RackTlp.K_CWND, 3,
+            RackTlp.K_STATE, RackTlp.RECOVERY, RackTlp.K_RECOVERY_POINT, 7, RackTlp.K_NEXT_NEW, 9);
+        x.tick(1);
+        x.deliver(255);
+        check.due("segment 7 is lost", x.segment(7), 1 + 4 + 256);
+        x.deliver(251);
+        check.stats("open", x, RackTlp.K_STATE, RackTlp.OPEN, RackTlp.K_LOSS_MARKS, 3, RackTlp.K_INFLIGHT, 0,
+            RackTlp.K_SRTT, 35, RackTlp.K_RTTVAR, 14, RackTlp.K_TIMER, RackTlp.PTO,
+            RackTlp.K_TIMER_AT, x.stat(RackTlp.K_NOW) + 70);
+        check.due("tick(70)", x.tick(70), 1);
+        check.stats("a probe without an id", x, RackTlp.K_TLPS, 1, RackTlp.K_TLP_OUT, 1, RackTlp.K_TX_COUNT, 256);
+        check.due("segment 7 is still lost", x.segment(7), 1 + 4 + 256);
+    }
+
     private static void aProbeTakesTheLastId() {
         RackTlp x = sampledWithTwoIdsLeft();
         x.write(2);
@@ -198,7 +227,7 @@ public final class TermsIdsTest {
     }
 
     private static void sendStopsAtTheLastId() {
-        RackTlp x = timedOut(1, 5, 255);
+        RackTlp x = timedOut(1, 20, 5, 255);
         check.due("deliver(254)", x.deliver(254), RackTlp.NEW_DATA);
         check.stats("two could go, one does", x, RackTlp.K_CWND, 2, RackTlp.K_INFLIGHT, 1, RackTlp.K_NEXT_NEW, 2,
             RackTlp.K_TX_COUNT, 256);
@@ -207,7 +236,7 @@ public final class TermsIdsTest {
     }
 
     private static void sendStopsAtTheWindow() {
-        RackTlp x = timedOut(1, 5, 253);
+        RackTlp x = timedOut(1, 20, 5, 253);
         check.due("deliver(252)", x.deliver(252), RackTlp.NEW_DATA);
         check.stats("two go, an id is left", x, RackTlp.K_CWND, 2, RackTlp.K_INFLIGHT, 2, RackTlp.K_NEXT_NEW, 3,
             RackTlp.K_TX_COUNT, 255);
@@ -215,7 +244,7 @@ public final class TermsIdsTest {
     }
 
     private static void aTimeoutTakesTheLastId() {
-        RackTlp x = timedOut(2, 1, 255);
+        RackTlp x = timedOut(2, 20, 1, 255);
         Check.passToTimer(x);
         check.due("sent for the 256th time", x.segment(0), 1 + 256 * 256 + 255 * 1048576);
         check.stats("the last id", x, RackTlp.K_TX_COUNT, 256, RackTlp.K_RETRANSMITS, 255,

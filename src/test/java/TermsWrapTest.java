@@ -25,6 +25,7 @@ public final class TermsWrapTest {
         theProbesDeadlineAloneWraps();
         check.sentence(wraps + ", time + rackRtt + reoWnd");
         theDeadlineOfALossWraps();
+        theLeastDeadlineOfALossIsTheWrappedOne();
         check.sentence(wraps + ", 4 * rttvar, 2 * srtt, reoMult * minRtt");
         theGreatestSample();
         check.sentence(wraps + ", 7 * srtt, 3 * rttvar, srtt - r");
@@ -156,7 +157,7 @@ public final class TermsWrapTest {
      * segment 1 at BASE and segment 2 so much later as given (0 to 3); all three lost, in LOSS.
      */
     private static RackTlp stuck(int later) {
-        RackTlp x = idleAt(3, 4, BASE);
+        RackTlp x = idleAt(3, 5, BASE);
         Check.writeMany(x, 2);
         x.tick(later);
         x.write(2);
@@ -190,6 +191,36 @@ public final class TermsWrapTest {
         check.due("segment 2", x.segment(2), 1 + 4 + 256);
     }
 
+    private static void theLeastDeadlineOfALossIsTheWrappedOne() {
+        int base = MAX - 30000;
+        RackTlp x = idleAt(4, 4, base);
+        Check.writeMany(x, 2);
+        x.tick(1);
+        x.write(2);
+        x.tick(2);
+        x.write(3);
+        x.tick(9997);
+        x.tick(0);
+        x.tick(0);
+        x.tick(0);
+        x.deliver(2);
+        check.stats("sampled", x, RackTlp.K_TX_COUNT, 256, RackTlp.K_SRTT, 9999, RackTlp.K_NOW, base + 10000);
+        Check.passTo(x, MIN);
+        x.deliver(0);
+        check.stats("learned", x, RackTlp.K_RACK_TX, 255, RackTlp.K_RACK_RTT, 20001);
+        for (int t = 4; t <= 255; t++) {
+            x.deliver(t);
+        }
+        // segment 1, of base, is due at MAX; segment 3, three later, at MIN + 2
+        check.stats("both are candidates", x, RackTlp.K_UNDOS, 1, RackTlp.K_REO_WND, 9999, RackTlp.K_LOSS_MARKS, 0,
+            RackTlp.K_STATE, RackTlp.OPEN, RackTlp.K_TIMER, RackTlp.REO, RackTlp.K_TIMER_AT, MIN + 2);
+        check.due("tick(1)", x.tick(1), 0);
+        check.due("tick(1)", x.tick(1), 1);
+        check.stats("one is lost", x, RackTlp.K_LOSS_MARKS, 1, RackTlp.K_TIMER, RackTlp.REO, RackTlp.K_TIMER_AT, MAX);
+        check.due("segment 1", x.segment(1), 1 + 256);
+        check.due("segment 3", x.segment(3), 1 + 4 + 256);
+    }
+
     private static void theGreatestSample() {
         RackTlp x = stuck(0);
         Check.passTo(x, BASE + MAX);
@@ -220,16 +251,16 @@ public final class TermsWrapTest {
 
     private static void theGapIsTheLeastInt() {
         RackTlp x = stuck(0);
-        Check.passTo(x, BASE + (1 << 30));
+        Check.passTo(x, BASE + 1073741830);
         x.deliver(1);
-        // 4 * rttvar and 2 * srtt are both MIN
-        check.stats("a sample of 2^30", x, RackTlp.K_SRTT, 1 << 30, RackTlp.K_RTTVAR, 1 << 29,
-            RackTlp.K_MIN_RTT, 1 << 30, RackTlp.K_RTO, 4000, RackTlp.K_PTO, 2, RackTlp.K_REO_WND, 1 << 28);
-        Check.passTo(x, BASE - (1 << 30));
+        // 4 * rttvar and 2 * srtt are both below zero
+        check.stats("a sample of 2^30 + 6", x, RackTlp.K_SRTT, 1073741830, RackTlp.K_RTTVAR, 536870915,
+            RackTlp.K_MIN_RTT, 1073741830, RackTlp.K_RTO, 4000, RackTlp.K_PTO, 2, RackTlp.K_REO_WND, 268435457);
+        Check.passTo(x, BASE + 1073741830 + MIN);
         x.deliver(2);
-        // srtt - r is MIN, and so is its absolute value
-        check.stats("a sample of -2^30", x, RackTlp.K_SRTT, -(1 << 28), RackTlp.K_RTTVAR, -(1 << 27),
-            RackTlp.K_MIN_RTT, -(1 << 30), RackTlp.K_RTO, 4, RackTlp.K_PTO, 2);
+        // srtt - r is MIN, and so is its absolute value: rttvar is -536870903 / 4, srtt -2147483600 / 8
+        check.stats("a sample less by 2^31", x, RackTlp.K_SRTT, -268435450, RackTlp.K_RTTVAR, -134217725,
+            RackTlp.K_MIN_RTT, -1073741818, RackTlp.K_RTO, 4, RackTlp.K_PTO, 2);
     }
 
     private static void divisionBelowZeroTruncates() {

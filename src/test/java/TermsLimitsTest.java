@@ -11,6 +11,7 @@ public final class TermsLimitsTest {
         zeroIsNotNone();
         check.sentence("Terms: \"reoWnd: 0 if minRtt is none, else min((reoMult * minRtt) / 4, srtt)\"");
         theReorderingWindowIsAtMostSrtt();
+        theReorderingWindowMayPassMinRtt();
         check.sentence("Terms: \"reoMult = min(reoMult + 1, 8)\"");
         reoMultIsAtMostEight();
         check.sentence("Terms: \"clamped into [4, 4000] (below 4 becomes 4, above 4000 becomes 4000)\"");
@@ -123,6 +124,30 @@ public final class TermsLimitsTest {
         for (int i = 0; i < windows.length; i++) {
             check.due("deliver", x.deliver(2 + i), RackTlp.DUPLICATE);
             check.stats("duplicate " + i, x, RackTlp.K_REO_WND, windows[i], RackTlp.K_SRTT, 8);
+        }
+    }
+
+    private static void theReorderingWindowMayPassMinRtt() {
+        RackTlp x = new RackTlp(5, 100);
+        Check.writeMany(x, 4);
+        x.tick(8);
+        x.deliver(0);
+        x.tick(15);
+        for (int t = 1; t <= 3; t++) {
+            x.deliver(t);
+        }
+        // samples of 8, 23, 23 and 23
+        check.stats("sampled", x, RackTlp.K_MIN_RTT, 8, RackTlp.K_SRTT, 11, RackTlp.K_REO_WND, 2);
+        x.write(4);
+        for (int t = 5; t <= 10; t++) {
+            Check.passToTimer(x);
+        }
+        check.stats("six to come", x, RackTlp.K_TX_COUNT, 11);
+        x.deliver(4);
+        int[] windows = {4, 6, 8, 10, 11, 11};
+        for (int i = 0; i < windows.length; i++) {
+            check.due("deliver", x.deliver(5 + i), RackTlp.DUPLICATE);
+            check.stats("duplicate " + i, x, RackTlp.K_REO_WND, windows[i], RackTlp.K_MIN_RTT, 8, RackTlp.K_SRTT, 11);
         }
     }
 

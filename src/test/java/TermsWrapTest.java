@@ -36,6 +36,7 @@ public final class TermsWrapTest {
         divisionBelowZeroTruncates();
         check.sentence("Terms: \"each of these four may be none\", and -1 is not none");
         minusOneIsNotNone();
+        noTimeIsTooShortWhileNoneIsKnown();
         check.end();
     }
 
@@ -291,5 +292,14 @@ public final class TermsWrapTest {
         x.deliver(2);
         // smoothed as a second sample: (0 + 10) / 4 and (-7 + 9) / 8
         check.stats("a sample of 9", x, RackTlp.K_SRTT, 0, RackTlp.K_RTTVAR, 2, RackTlp.K_MIN_RTT, -1);
+    }
+
+    private static void noTimeIsTooShortWhileNoneIsKnown() {
+        RackTlp x = stuck(0);
+        Check.passTo(x, BASE + 10000 + MIN);
+        x.deliver(0);
+        // sent many times, so it gives no sample, and minRtt is none: even MIN is not below it
+        check.stats("the last sending's time counts", x, RackTlp.K_MIN_RTT, -1, RackTlp.K_RACK_TX, 255,
+            RackTlp.K_RACK_RTT, MIN);
     }
 }

@@ -41,6 +41,7 @@ public final class LanguageTest {
         fieldsAreAsRuled();
         String code = withoutComments(Files.readString(Path.of("src/main/java/RackTlp.java")));
         theTextIsAsRuled(code);
+        loopsCountAgainstABound(code);
         methodsAreShort(code);
         callsGoAtMostSixDeep(code);
         check.end();
@@ -94,6 +95,7 @@ public final class LanguageTest {
                 isTrue(method.getName() + " bears its own name", !faceNames.contains(method.getName()));
                 isTrue(method.getName() + " has at most seven parameters", method.getParameterCount() <= 7);
             }
+            isTrue(method.getName() + " answers no array", !method.getReturnType().isArray());
         }
     }
 
@@ -107,6 +109,8 @@ public final class LanguageTest {
                     && (field.getType() == int.class || field.getType() == long.class));
             } else {
                 isTrue(field.getName() + " is private", Modifier.isPrivate(modifiers));
+                isTrue(field.getName() + " is no array or always the same one",
+                    !field.getType().isArray() || Modifier.isFinal(modifiers));
                 count++;
             }
         }
@@ -123,13 +127,22 @@ public final class LanguageTest {
         }
         isTrue("no lambda, no method reference, no text", !code.contains("->") && !code.contains("::")
             && !code.contains("\""));
-        Matcher made = Pattern.compile("\\bnew\\b[^;]*;").matcher(code);
-        while (made.find()) {
-            isTrue("made with a constant length: " + made.group(),
-                made.group().matches("new (int|boolean)\\[(MAX_SEGMENTS|MAX_TX)\\];"));
+        for (String line : code.lines().filter(line -> line.matches(".*\\bnew\\b.*")).toList()) {
+            isTrue("made in a field's initialiser, with a constant length: " + line,
+                line.matches("    private final (int|boolean)\\[\\] \\w+ = new \\1\\[(MAX_SEGMENTS|MAX_TX)\\];"));
         }
         Matcher nested = Pattern.compile("\\b(?!if\\b|for\\b|while\\b|switch\\b)\\w+\\([^()]*\\b\\w+\\(").matcher(code);
         isTrue("no call inside another's arguments", !nested.find());
+    }
+
+    private static void loopsCountAgainstABound(String code) {
+        Pattern counted = Pattern.compile("for \\(int (\\w+) = [^;]+; \\1 (<|>|>=) [^;]+; \\1(\\+\\+|--)\\) \\{");
+        Pattern bounded = Pattern.compile("while \\(\\w+ < [A-Z_]+( && [^;]+)?\\) \\{");
+        Pattern loop = Pattern.compile("\\b(for|while|do)\\b");
+        for (String line : code.lines().map(String::strip).filter(l -> loop.matcher(l).find()).toList()) {
+            isTrue("a counter against a bound: " + line,
+                counted.matcher(line).matches() || bounded.matcher(line).matches());
+        }
     }
 
     private static Map<String, String> bodies(String code) {

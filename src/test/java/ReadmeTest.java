@@ -60,7 +60,8 @@ public final class ReadmeTest {
     private static void everyMethodIsTold(String readme) {
         for (String name : List.of("new RackTlp", "write", "deliver", "deliverNoAck", "tick", "txInfo", "txTime",
                 "segment", "recvByte", "stat")) {
-            check.due(name + " is told", Pattern.compile("(?m)^\\|.*`" + name + "\\(").matcher(readme).find() ? 1 : 0, 1);
+            Matcher row = Pattern.compile("(?m)^\\|.*`" + name + "\\(").matcher(readme);
+            check.due(name + " is told", row.find() ? 1 : 0, 1);
         }
     }
 

@@ -9,7 +9,8 @@ public final class TermsAckTest {
         takesSamples();
         check.sentence("Terms: SAMPLE: \"minRtt = min(minRtt, r)\"");
         theLeastSampleIsKept();
-        check.sentence("Terms: GROW: \"if cwnd < ssthresh, cwnd++; else cnt++ and, if cnt >= cwnd, cwnd++ and cnt = 0\"");
+        check.sentence("Terms: GROW: \"if cwnd < ssthresh, cwnd++; else cnt++ and, if cnt >= cwnd,"
+            + " cwnd++ and cnt = 0\"");
         growsSlowlyThenCarefully();
         check.sentence("Terms: GROW: \"does nothing in RECOVERY\"");
         nothingGrowsInRecovery();
@@ -32,6 +33,7 @@ public final class TermsAckTest {
         check.sentence("Terms: ACK, c: \"if state != OPEN and ep(s0) > 0: ep(s0)--; undoRetrans--\"");
         countsOnlyTheEpisodesOwnRetransmissions();
         theDuplicatesOwnSegmentCounts();
+        aDuplicateOfNoEpisodeUndoesNothing();
         nothingIsUndoneOnceOpen();
         check.sentence("Terms: ACK, d: \"every s < recoveryPoint is delivered\"");
         leavesLossAtThePointAlone();
@@ -136,7 +138,8 @@ public final class TermsAckTest {
         }
         x.deliver(0);
         x.deliver(7);
-        check.stats("step a comes before step d", x, RackTlp.K_STATE, RackTlp.OPEN, RackTlp.K_CWND, 4, RackTlp.K_CNT, 0);
+        check.stats("step a comes before step d", x, RackTlp.K_STATE, RackTlp.OPEN, RackTlp.K_CWND, 4,
+            RackTlp.K_CNT, 0);
         x.write(8);
         x.deliver(x.stat(RackTlp.K_TX_COUNT) - 1);
         check.stats("OPEN", x, RackTlp.K_CNT, 1);
@@ -306,8 +309,8 @@ public final class TermsAckTest {
         Check.writeMany(x, 2);
         check.due("tick(50)", x.tick(50), 1);
         x.deliver(2);
-        check.stats("two sent again", x, RackTlp.K_STATE, RackTlp.LOSS, RackTlp.K_UNDO_RETRANS, 2, RackTlp.K_TX_COUNT, 4,
-            RackTlp.K_CWND, 2, RackTlp.K_SSTHRESH, 2, RackTlp.K_CNT, 0);
+        check.stats("two sent again", x, RackTlp.K_STATE, RackTlp.LOSS, RackTlp.K_UNDO_RETRANS, 2,
+            RackTlp.K_TX_COUNT, 4, RackTlp.K_CWND, 2, RackTlp.K_SSTHRESH, 2, RackTlp.K_CNT, 0);
         return x;
     }
 
@@ -323,6 +326,26 @@ public final class TermsAckTest {
         check.stats("one", y, RackTlp.K_UNDO_RETRANS, 1, RackTlp.K_UNDOS, 0, RackTlp.K_STATE, RackTlp.LOSS);
         check.due("its own", y.segment(0), 1 + 2 + 8 + 2 * 256);
         check.due("not the other", y.segment(1), 1 + 2 * 256 + 1048576);
+    }
+
+    private static void aDuplicateOfNoEpisodeUndoesNothing() {
+        RackTlp x = new RackTlp(8, 100);
+        Check.writeMany(x, 2);
+        x.tick(10);
+        x.deliver(0);
+        check.due("segment 1 is probed", x.tick(20), 1);
+        x.deliver(1);
+        Check.writeMany(x, 8);
+        x.tick(10);
+        x.deliver(4);
+        check.due("segment 2 is lost", x.tick(2), 1);
+        // six on their way and a window of 5: it waits, and there is nothing to be undone
+        check.stats("waiting", x, RackTlp.K_STATE, RackTlp.RECOVERY, RackTlp.K_CWND, 5, RackTlp.K_INFLIGHT, 6,
+            RackTlp.K_UNDO_RETRANS, 0);
+        check.due("the probe arrives", x.deliver(2), RackTlp.DUPLICATE);
+        check.stats("nothing undone", x, RackTlp.K_STATE, RackTlp.RECOVERY, RackTlp.K_DSACKS, 1, RackTlp.K_UNDOS, 0,
+            RackTlp.K_UNDO_RETRANS, 0, RackTlp.K_CWND, 5);
+        check.due("still lost", x.segment(2), 1 + 4 + 256);
     }
 
     private static void nothingIsUndoneOnceOpen() {

@@ -30,6 +30,7 @@ public final class TermsEpisodeTest {
         check.sentence("Terms: UNDO: \"cnt = 0; state = OPEN; .. undos++\"");
         undoMarksAgainWhatIsStillDue();
         undoComesOnceForEachEpisode();
+        undoLeavesTheBackoff();
         check.sentence("Terms: UNDO: \"lost(s) = false for every s\"");
         undoClearsLostSegments();
         undoClearsTheLastSegmentToo();
@@ -257,6 +258,8 @@ public final class TermsEpisodeTest {
         check.stats("undone", x, RackTlp.K_UNDOS, 1, RackTlp.K_UNDO_RETRANS, 0, RackTlp.K_CWND, 4,
             RackTlp.K_SSTHRESH, 32, RackTlp.K_CNT, 0, RackTlp.K_STATE, RackTlp.OPEN, RackTlp.K_DSACKS, 4,
             RackTlp.K_REO_MULT, 5, RackTlp.K_COMPLETE, 1);
+        check.stats("what UNDO leaves", x, RackTlp.K_RECOVERY_POINT, 4, RackTlp.K_PRIOR_CWND, 4,
+            RackTlp.K_PRIOR_SSTHRESH, 32, RackTlp.K_RTOS, 1, RackTlp.K_RETRANSMITS, 4);
     }
 
     private static void undoKeepsAWiderWindow() {
@@ -340,6 +343,26 @@ public final class TermsEpisodeTest {
             check.due("deliver", x.deliver(2 * s + 1), RackTlp.DUPLICATE);
             check.stats("after", x, RackTlp.K_UNDOS, s + 1, RackTlp.K_STATE, RackTlp.OPEN, RackTlp.K_SSTHRESH, 32);
         }
+    }
+
+    private static void undoLeavesTheBackoff() {
+        RackTlp x = new RackTlp(2, 4);
+        Check.writeMany(x, 2);
+        x.tick(10000);
+        x.tick(0);
+        x.tick(0);
+        x.tick(0);
+        x.deliver(0);
+        check.stats("no id left", x, RackTlp.K_TX_COUNT, 256, RackTlp.K_UNDO_RETRANS, 254, RackTlp.K_SHIFT, 0);
+        check.due("segment 1 times out and cannot go", x.tick(0), 64);
+        for (int t = 2; t <= 255; t++) {
+            check.stats("before " + t, x, RackTlp.K_UNDOS, 0, RackTlp.K_STATE, RackTlp.LOSS, RackTlp.K_SHIFT, 6);
+            check.due("deliver(" + t + ")", x.deliver(t), RackTlp.DUPLICATE);
+        }
+        // no arrival came with the duplicates; segment 1 is long due, so DETECT starts the next episode at once
+        check.stats("undone", x, RackTlp.K_UNDOS, 1, RackTlp.K_UNDO_RETRANS, 0, RackTlp.K_SHIFT, 6, RackTlp.K_RTO, 256,
+            RackTlp.K_STATE, RackTlp.RECOVERY, RackTlp.K_LOSS_MARKS, 1, RackTlp.K_PRIOR_CWND, 2,
+            RackTlp.K_PRIOR_SSTHRESH, 32, RackTlp.K_CWND, 2, RackTlp.K_SSTHRESH, 2);
     }
 
     private static void undoClearsLostSegments() {

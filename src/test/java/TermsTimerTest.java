@@ -165,7 +165,8 @@ public final class TermsTimerTest {
         check.stats("the earlier one's", x, RackTlp.K_TIMER, RackTlp.RTO, RackTlp.K_TIMER_AT, 50);
         x.deliver(0);
         // 19 from the first one would be before the probe; from the second one it is not
-        check.stats("the later one's is 26", x, RackTlp.K_RTO, 19, RackTlp.K_TIMER, RackTlp.PTO, RackTlp.K_TIMER_AT, 21);
+        check.stats("the later one's is 26", x, RackTlp.K_RTO, 19, RackTlp.K_TIMER, RackTlp.PTO,
+            RackTlp.K_TIMER_AT, 21);
     }
 
     private static void firesReordering() {
